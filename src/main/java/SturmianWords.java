@@ -296,7 +296,7 @@ public final class SturmianWords {
         state = new State(state.slope, word);
     }
 
-    /** The floor of dividend / divisor for dividend >= 0; the only division here, so that its divisor is tested. */
+    /** The floor of dividend / divisor for dividend >= 0. No other place divides, so each divisor is tested. */
     private static long quotient(long dividend, long divisor) {
         return divisor < 1 ? 0L : dividend / divisor;
     }
@@ -367,11 +367,11 @@ public final class SturmianWords {
             int dividend = denominator;
             int divisor = numerator;
             for (int i = 1; i <= MAX_EUCLID_STEPS && divisor > 0; i++) {
-                int term = (int) quotient(dividend, divisor);
+                int times = (int) quotient(dividend, divisor);
                 if (i == index) {
-                    return term;
+                    return times;
                 }
-                int rest = dividend - term * divisor;
+                int rest = dividend - times * divisor;
                 dividend = divisor;
                 divisor = rest;
             }
@@ -572,13 +572,13 @@ public final class SturmianWords {
         }
     }
 
-    /** The morphisms, each as the images of 0 and of 1 with their sizes. */
+    /** The morphisms, each as the images of 0 and of 1, read as binary numbers, with their sizes. */
     private enum Morphism {
-        EXCHANGE(0b1, 1, 0b0, 1),
-        ZERO_TO_01(0b01, 2, 0b0, 1),
-        ZERO_TO_10(0b10, 2, 0b0, 1),
-        ONE_TO_01(0b0, 1, 0b01, 2),
-        ONE_TO_10(0b0, 1, 0b10, 2);
+        EXCHANGE(1, 1, 0, 1),
+        ZERO_TO_01(1, 2, 0, 1),
+        ZERO_TO_10(2, 2, 0, 1),
+        ONE_TO_01(0, 1, 1, 2),
+        ONE_TO_10(0, 1, 2, 2);
 
         private final int bitsOfZero;
         private final int sizeOfZero;
