@@ -415,7 +415,7 @@ public final class SturmianWords {
         }
     }
 
-    /** The letters of a word, never changed; the last letter is the lowest bit, so that factors compare as numbers. */
+    /** A word, never changed; its last letter is the lowest bit, so that factors compare as numbers. */
     private static final class Word {
         private final long bits;
         private final int size;
@@ -553,7 +553,7 @@ public final class SturmianWords {
             return null;
         }
 
-        /** The least d from 0 to b - 1 such that a lower mechanical word begins with this one; NONE if there is none. */
+        /** The least d from 0 to b - 1 such that the lower word of a / b and d / b begins with this; else NONE. */
         int leastIntercept(int a, int b) {
             int least = 0;
             int most = b - 1;
